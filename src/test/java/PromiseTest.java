@@ -721,7 +721,13 @@ public final class PromiseTest {
         y.write(3, 0);
         y.write(4, 0);
         commit(y, 3, 4, 5);
-        dueSerial("13: none between a writer and its reader", y, 2, 3, 5, 4);
+        dueSerial("13: a reader that writes too", y, 2, 3, 5, 4);
+        HistoryJudge z = new HistoryJudge();
+        flow(z, 0, 0, 3);
+        z.write(1, 0);
+        z.write(2, 1);
+        commit(z, 0, 1, 2, 3);
+        dueSerial("13: no writer between, but another one", z, 3, 0, 2, 3, 1);
     }
 
     private static void promise14() {
