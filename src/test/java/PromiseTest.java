@@ -1,102 +1,8 @@
 import java.util.NoSuchElementException;
 
 /** At least one test for each promise of the document, by its number. */
-public final class PromiseTest {
-    private static final int[] NO_TRANSACTIONS = {-1, 8, Integer.MIN_VALUE, Integer.MAX_VALUE};
-    private static final int[] NO_ITEMS = {-1, 6, Integer.MIN_VALUE, Integer.MAX_VALUE};
-
-    private static int wrong = 0;
-
-    private interface Call {
-        void run();
-    }
-
-    private static void due(String what, int want, int got) {
-        if (want != got) {
-            wrong++;
-            System.out.println(what + " answered " + got + ", due is " + want);
-        }
-    }
-
-    private static void due(String what, boolean want, boolean got) {
-        due(what, want ? 1 : 0, got ? 1 : 0);
-    }
-
-    private static void dueThrow(String what, Class<?> want, Call call) {
-        Class<?> got = null;
-        try {
-            call.run();
-        } catch (RuntimeException e) {
-            got = e.getClass();
-        }
-        if (want != got) {
-            wrong++;
-            System.out.println(what + " threw " + got + ", due is " + want);
-        }
-    }
-
-    private static void dueRow(String what, HistoryJudge x, int kind, int... want) {
-        due(what + ": length", want.length, x.cycle(kind));
-        for (int i = 0; i < want.length; i++) {
-            due(what + ": step " + i, want[i], x.step(kind, i));
-        }
-        due(what + ": behind the last step", HistoryJudge.NONE, x.step(kind, want.length));
-        due(what + ": before the first step", HistoryJudge.NONE, x.step(kind, -1));
-    }
-
-    private static void dueOrder(String what, HistoryJudge x, int item, int... want) {
-        for (int i = 0; i < want.length; i++) {
-            due(what + ": version " + i, want[i], x.version(item, i));
-        }
-        due(what + ": behind the last version", HistoryJudge.NONE, x.version(item, want.length));
-    }
-
-    private static void dueSerial(String what, HistoryJudge x, int beginnings, int... want) {
-        due(what + ": serial", true, x.serial());
-        for (int i = 0; i < want.length; i++) {
-            due(what + ": place " + i, want[i], x.place(i));
-        }
-        due(what + ": behind the last place", HistoryJudge.NONE, x.place(want.length));
-        due(what + ": before the first place", HistoryJudge.NONE, x.place(-1));
-        due(what + ": beginnings", beginnings, x.beginnings());
-    }
-
-    private static void dueNoSerial(String what, HistoryJudge x) {
-        due(what + ": serial", false, x.serial());
-        due(what + ": place", HistoryJudge.NONE, x.place(0));
-        due(what + ": beginnings", 0, x.beginnings());
-    }
-
-    private static void commit(HistoryJudge x, int... ts) {
-        for (int t : ts) {
-            x.end(t, true);
-        }
-    }
-
-    /** An item that a and then b wrote: an edge WW from a to b. The two have not ended. */
-    private static void overwrite(HistoryJudge x, int item, int a, int b) {
-        x.write(a, item);
-        x.write(b, item);
-    }
-
-    /** A version of a is read by b: an edge WR from a to b. */
-    private static void flow(HistoryJudge x, int item, int a, int b) {
-        x.read(b, item, x.write(a, item));
-    }
-
-    /** A version of a, which a reads too, is overwritten by b: edges WW and RW from a to b. */
-    private static void overwriteRead(HistoryJudge x, int item, int a, int b) {
-        x.read(a, item, x.write(a, item));
-        x.write(b, item);
-    }
-
-    /** The first version is read by a and overwritten by b: an edge RW from a to b. */
-    private static void antiFlow(HistoryJudge x, int item, int a, int b) {
-        x.read(a, item, -1);
-        x.write(b, item);
-    }
-
-    private static void dueNew(String what, HistoryJudge x) {
+public final class PromiseTest extends Checks {
+    private static void dueNew(String what, CountedJudge x) {
         for (int t = 0; t < 8; t++) {
             due(what + ": state " + t, 0, x.state(t));
             for (int b = 0; b < 8; b++) {
@@ -113,23 +19,23 @@ public final class PromiseTest {
         due(what + ": flaws", 0, x.flaws());
         due(what + ": level", 4, x.level());
         dueSerial(what, x, 0);
-        dueThrow(what + ": no version 0", NoSuchElementException.class, () -> x.read(0, 0, 0));
+        dueThrow(what + ": no version 0", NoSuchElementException.class, x, y -> y.read(0, 0, 0));
         due(what + ": first read", 1, x.read(0, 0, -1));
         due(what + ": first write", 0, x.write(0, 0));
     }
 
     private static void promise1() {
         due("1: NONE", -1, HistoryJudge.NONE);
-        dueNew("1: a new object", new HistoryJudge());
-        HistoryJudge a = new HistoryJudge();
-        HistoryJudge b = new HistoryJudge();
+        dueNew("1: a new object", new CountedJudge());
+        CountedJudge a = new CountedJudge();
+        CountedJudge b = new CountedJudge();
         a.write(0, 0);
         due("1: objects are apart", 0, b.state(0));
         due("1: versions are apart", 0, b.write(0, 0));
     }
 
     private static void promise2() {
-        HistoryJudge x = new HistoryJudge();
+        CountedJudge x = new CountedJudge();
         due("2: first", 0, x.write(7, 5));
         due("2: of another item", 1, x.write(7, 0));
         due("2: by another one", 2, x.write(0, 5));
@@ -138,35 +44,35 @@ public final class PromiseTest {
         due("2: others stay idle", 0, x.state(6));
         x.end(7, true);
         x.end(0, false);
-        dueThrow("2: committed", IllegalStateException.class, () -> x.write(7, 5));
-        dueThrow("2: aborted", IllegalStateException.class, () -> x.write(0, 5));
+        dueThrow("2: committed", IllegalStateException.class, x, y -> y.write(7, 5));
+        dueThrow("2: aborted", IllegalStateException.class, x, y -> y.write(0, 5));
         for (int t : NO_TRANSACTIONS) {
-            dueThrow("2: transaction " + t, IllegalArgumentException.class, () -> x.write(t, 0));
+            dueThrow("2: transaction " + t, IllegalArgumentException.class, x, y -> y.write(t, 0));
         }
         for (int item : NO_ITEMS) {
-            dueThrow("2: item " + item, IllegalArgumentException.class, () -> x.write(1, item));
+            dueThrow("2: item " + item, IllegalArgumentException.class, x, y -> y.write(1, item));
             dueThrow("2: item before state", IllegalArgumentException.class,
-                    () -> x.write(7, item));
+                    x, y -> y.write(7, item));
         }
         due("2: a call that throws makes nothing running", 0, x.state(1));
         for (int i = 4; i < 40; i++) {
             due("2: version " + i, i, x.write(i % 6 + 1, i % 6));
         }
-        dueThrow("2: 40 versions", UnsupportedOperationException.class, () -> x.write(1, 0));
-        dueThrow("2: state before limit", IllegalStateException.class, () -> x.write(0, 0));
-        dueThrow("2: item before limit", IllegalArgumentException.class, () -> x.write(1, 6));
+        dueThrow("2: 40 versions", UnsupportedOperationException.class, x, y -> y.write(1, 0));
+        dueThrow("2: state before limit", IllegalStateException.class, x, y -> y.write(0, 0));
+        dueThrow("2: item before limit", IllegalArgumentException.class, x, y -> y.write(1, 6));
         due("2: reads are another limit", 1, x.read(1, 3, 39));
         due("2: clear after the limit", 40, x.clear());
         for (int i = 0; i < 40; i++) {
             x.write(0, 0);
         }
-        dueThrow("2: refused", UnsupportedOperationException.class, () -> x.write(1, 0));
+        dueThrow("2: refused", UnsupportedOperationException.class, x, y -> y.write(1, 0));
         due("2: a refused one stays idle", 0, x.state(1));
         due("2: a refused one is not counted", 40, x.clear());
     }
 
     private static void promise3() {
-        HistoryJudge x = new HistoryJudge();
+        CountedJudge x = new CountedJudge();
         due("3: first version", 1, x.read(0, 5, -1));
         due("3: makes it running", 1, x.state(0));
         x.write(1, 2);
@@ -175,44 +81,44 @@ public final class PromiseTest {
         due("3: its own", 3, x.read(1, 3, 1));
         due("3: the same again", 4, x.read(2, 2, 0));
         due("3: first version of a written item", 5, x.read(2, 2, -1));
-        for (int v : new int[] {-2, 1, 2, 40, Integer.MIN_VALUE, Integer.MAX_VALUE}) {
-            dueThrow("3: version " + v, NoSuchElementException.class, () -> x.read(3, 2, v));
+        for (int v : new int[] {-2, 1, 2, 40, LEAST, GREATEST}) {
+            dueThrow("3: version " + v, NoSuchElementException.class, x, y -> y.read(3, 2, v));
         }
         for (int t : NO_TRANSACTIONS) {
-            dueThrow("3: transaction " + t, IllegalArgumentException.class, () -> x.read(t, 2, 0));
+            dueThrow("3: transaction " + t, IllegalArgumentException.class, x, y -> y.read(t, 2, 0));
             dueThrow("3: transaction before version", IllegalArgumentException.class,
-                    () -> x.read(t, 2, 9));
+                    x, y -> y.read(t, 2, 9));
         }
         for (int item : NO_ITEMS) {
             dueThrow("3: item " + item, IllegalArgumentException.class,
-                    () -> x.read(3, item, -1));
+                    x, y -> y.read(3, item, -1));
         }
         due("3: a call that throws makes nothing running", 0, x.state(3));
         x.end(1, false);
         x.end(0, true);
-        dueThrow("3: aborted", IllegalStateException.class, () -> x.read(1, 2, 0));
-        dueThrow("3: committed", IllegalStateException.class, () -> x.read(0, 2, 0));
-        dueThrow("3: version before state", NoSuchElementException.class, () -> x.read(0, 2, 1));
+        dueThrow("3: aborted", IllegalStateException.class, x, y -> y.read(1, 2, 0));
+        dueThrow("3: committed", IllegalStateException.class, x, y -> y.read(0, 2, 0));
+        dueThrow("3: version before state", NoSuchElementException.class, x, y -> y.read(0, 2, 1));
         due("3: of an aborted one", 6, x.read(4, 2, 0));
         for (int i = 7; i <= 60; i++) {
             due("3: read " + i, i, x.read(4, 0, -1));
         }
-        dueThrow("3: 60 reads", UnsupportedOperationException.class, () -> x.read(5, 0, -1));
+        dueThrow("3: 60 reads", UnsupportedOperationException.class, x, y -> y.read(5, 0, -1));
         due("3: a refused one stays idle", 0, x.state(5));
-        dueThrow("3: state before limit", IllegalStateException.class, () -> x.read(0, 0, -1));
-        dueThrow("3: version before limit", NoSuchElementException.class, () -> x.read(5, 0, 0));
+        dueThrow("3: state before limit", IllegalStateException.class, x, y -> y.read(0, 0, -1));
+        dueThrow("3: version before limit", NoSuchElementException.class, x, y -> y.read(5, 0, 0));
         due("3: versions are another limit", 2, x.write(5, 0));
         x.clear();
         due("3: after clear", 1, x.read(0, 0, -1));
     }
 
     private static void promise4() {
-        HistoryJudge x = new HistoryJudge();
+        CountedJudge x = new CountedJudge();
         for (int t : NO_TRANSACTIONS) {
-            dueThrow("4: transaction " + t, IllegalArgumentException.class, () -> x.end(t, true));
+            dueThrow("4: transaction " + t, IllegalArgumentException.class, x, y -> y.end(t, true));
         }
-        dueThrow("4: idle commits", IllegalStateException.class, () -> x.end(0, true));
-        dueThrow("4: idle aborts", IllegalStateException.class, () -> x.end(0, false));
+        dueThrow("4: idle commits", IllegalStateException.class, x, y -> y.end(0, true));
+        dueThrow("4: idle aborts", IllegalStateException.class, x, y -> y.end(0, false));
         due("4: stays idle", 0, x.state(0));
         x.write(0, 0);
         x.read(1, 0, -1);
@@ -220,8 +126,8 @@ public final class PromiseTest {
         x.end(1, false);
         due("4: committed", 2, x.state(0));
         due("4: aborted", 3, x.state(1));
-        dueThrow("4: twice", IllegalStateException.class, () -> x.end(0, false));
-        dueThrow("4: again", IllegalStateException.class, () -> x.end(1, true));
+        dueThrow("4: twice", IllegalStateException.class, x, y -> y.end(0, false));
+        dueThrow("4: again", IllegalStateException.class, x, y -> y.end(1, true));
         due("4: stays committed", 2, x.state(0));
         due("4: stays aborted", 3, x.state(1));
         dueOrder("4: a commit puts into the order", x, 0, 0);
@@ -231,7 +137,7 @@ public final class PromiseTest {
     }
 
     private static void promise5() {
-        HistoryJudge x = new HistoryJudge();
+        CountedJudge x = new CountedJudge();
         due("5: idle", 0, x.state(7));
         x.read(7, 0, -1);
         x.write(0, 0);
@@ -243,12 +149,12 @@ public final class PromiseTest {
         due("5: committed", 2, x.state(0));
         due("5: aborted", 3, x.state(1));
         for (int t : NO_TRANSACTIONS) {
-            due("5: transaction " + t, HistoryJudge.NONE, x.state(t));
+            due("5: transaction " + t, NONE, x.state(t));
         }
     }
 
     private static void promise6() {
-        HistoryJudge x = new HistoryJudge();
+        CountedJudge x = new CountedJudge();
         x.write(0, 5);
         x.write(1, 5);
         x.write(2, 5);
@@ -262,13 +168,13 @@ public final class PromiseTest {
         dueOrder("6: by commits, final ones alone", x, 5, 1, 3);
         dueOrder("6: of another item", x, 0, 4);
         dueOrder("6: of an item not written", x, 1);
-        for (int i : new int[] {-1, Integer.MIN_VALUE, Integer.MAX_VALUE}) {
-            due("6: version " + i, HistoryJudge.NONE, x.version(5, i));
+        for (int i : new int[] {-1, LEAST, GREATEST}) {
+            due("6: version " + i, NONE, x.version(5, i));
         }
         for (int item : NO_ITEMS) {
-            due("6: item " + item, HistoryJudge.NONE, x.version(item, 0));
+            due("6: item " + item, NONE, x.version(item, 0));
         }
-        HistoryJudge y = new HistoryJudge();
+        CountedJudge y = new CountedJudge();
         for (int t = 0; t < 8; t++) {
             y.write(t, 0);
         }
@@ -277,7 +183,7 @@ public final class PromiseTest {
     }
 
     private static void promise7() {
-        HistoryJudge x = new HistoryJudge();
+        CountedJudge x = new CountedJudge();
         for (int t = 0; t < 4; t++) {
             x.write(t, 3);
         }
@@ -290,7 +196,7 @@ public final class PromiseTest {
         due("7: the last two", true, x.exchange(3, 1));
         dueOrder("7: exchanged", x, 3, 0, 2, 1);
         dueOrder("7: another item stays", x, 4, 4, 5);
-        for (int i : new int[] {-1, 2, 3, Integer.MIN_VALUE, Integer.MAX_VALUE}) {
+        for (int i : new int[] {-1, 2, 3, LEAST, GREATEST}) {
             due("7: exchange " + i, false, x.exchange(3, i));
         }
         for (int item : NO_ITEMS) {
@@ -308,7 +214,7 @@ public final class PromiseTest {
     }
 
     private static void promise8() {
-        HistoryJudge x = new HistoryJudge();
+        CountedJudge x = new CountedJudge();
         x.write(0, 0);
         x.write(1, 0);
         x.write(2, 0);
@@ -337,7 +243,7 @@ public final class PromiseTest {
     }
 
     private static void promise8All() {
-        HistoryJudge x = new HistoryJudge();
+        CountedJudge x = new CountedJudge();
         x.write(0, 0);
         x.write(1, 0);
         x.write(0, 1);
@@ -345,7 +251,7 @@ public final class PromiseTest {
         x.read(0, 0, 0);
         commit(x, 0, 1);
         due("8: WW, WR and RW", 7, x.edges(0, 1));
-        HistoryJudge y = new HistoryJudge();
+        CountedJudge y = new CountedJudge();
         y.read(0, 0, -1);
         y.write(0, 0);
         y.write(1, 0);
@@ -354,7 +260,7 @@ public final class PromiseTest {
     }
 
     private static void promise8Aborted() {
-        HistoryJudge x = new HistoryJudge();
+        CountedJudge x = new CountedJudge();
         x.write(0, 0);
         x.write(0, 0);
         x.write(1, 0);
@@ -373,7 +279,7 @@ public final class PromiseTest {
     }
 
     private static void promise9() {
-        HistoryJudge x = new HistoryJudge();
+        CountedJudge x = new CountedJudge();
         flow(x, 0, 0, 1);
         x.write(0, 0);
         due("9: nothing committed", 0, x.flaws());
@@ -388,14 +294,14 @@ public final class PromiseTest {
         due("9: the reader runs", 4, x.flaws());
         commit(x, 3);
         due("9: of an aborted one too", 6, x.flaws());
-        HistoryJudge own = new HistoryJudge();
+        CountedJudge own = new CountedJudge();
         own.write(0, 0);
         own.read(0, 0, 0);
         own.write(0, 0);
         due("9: running, its own", 0, own.flaws());
         commit(own, 0);
         due("9: its own, not final", 0, own.flaws());
-        HistoryJudge aborted = new HistoryJudge();
+        CountedJudge aborted = new CountedJudge();
         aborted.write(0, 0);
         aborted.read(1, 0, 0);
         aborted.end(0, false);
@@ -405,26 +311,26 @@ public final class PromiseTest {
     }
 
     private static void promise9Cycles() {
-        HistoryJudge ww = new HistoryJudge();
+        CountedJudge ww = new CountedJudge();
         overwrite(ww, 0, 0, 1);
         overwrite(ww, 1, 0, 1);
         commit(ww, 0, 1);
         due("9: no cycle", 0, ww.flaws());
         ww.exchange(1, 0);
         due("9: WW and WW", 1 + 8, ww.flaws());
-        HistoryJudge wr = new HistoryJudge();
+        CountedJudge wr = new CountedJudge();
         wr.write(0, 0);
         wr.write(1, 1);
         wr.read(0, 1, 1);
         wr.read(1, 0, 0);
         commit(wr, 0, 1);
         due("9: WR and WR", 8, wr.flaws());
-        HistoryJudge rw = new HistoryJudge();
+        CountedJudge rw = new CountedJudge();
         overwrite(rw, 0, 0, 1);
         antiFlow(rw, 1, 1, 0);
         commit(rw, 0, 1);
         due("9: WW and RW", 16 + 32, rw.flaws());
-        HistoryJudge two = new HistoryJudge();
+        CountedJudge two = new CountedJudge();
         antiFlow(two, 0, 0, 1);
         antiFlow(two, 1, 1, 0);
         commit(two, 0);
@@ -434,7 +340,7 @@ public final class PromiseTest {
     }
 
     private static void promise10() {
-        HistoryJudge x = new HistoryJudge();
+        CountedJudge x = new CountedJudge();
         due("10: nothing", 4, x.level());
         antiFlow(x, 0, 0, 1);
         antiFlow(x, 1, 1, 0);
@@ -454,13 +360,13 @@ public final class PromiseTest {
         due("10: still", 1, x.level());
         x.exchange(5, 0);
         due("10: kind 0", 0, x.level());
-        HistoryJudge aborted = new HistoryJudge();
+        CountedJudge aborted = new CountedJudge();
         aborted.read(1, 0, aborted.write(0, 0));
         commit(aborted, 1);
         due("10: of a running one", 1, aborted.level());
         commit(aborted, 0);
         due("10: which then commits", 4, aborted.level());
-        HistoryJudge wr = new HistoryJudge();
+        CountedJudge wr = new CountedJudge();
         wr.write(0, 0);
         wr.write(1, 1);
         wr.read(0, 1, 1);
@@ -470,8 +376,8 @@ public final class PromiseTest {
     }
 
     private static void promise11() {
-        HistoryJudge x = new HistoryJudge();
-        for (int kind : new int[] {-1, 4, Integer.MIN_VALUE, Integer.MAX_VALUE}) {
+        CountedJudge x = new CountedJudge();
+        for (int kind : NO_KINDS) {
             due("11: kind " + kind + ", new", 0, x.cycle(kind));
         }
         overwriteRead(x, 0, 0, 1);
@@ -485,10 +391,10 @@ public final class PromiseTest {
         for (int kind = 0; kind < 4; kind++) {
             due("11: an edge of several sorts, kind " + kind, 2, x.cycle(kind));
         }
-        for (int kind : new int[] {-1, 4, Integer.MIN_VALUE, Integer.MAX_VALUE}) {
+        for (int kind : NO_KINDS) {
             due("11: kind " + kind, 0, x.cycle(kind));
         }
-        HistoryJudge flows = new HistoryJudge();
+        CountedJudge flows = new CountedJudge();
         flow(flows, 0, 3, 4);
         flow(flows, 1, 4, 5);
         flow(flows, 2, 5, 3);
@@ -503,14 +409,14 @@ public final class PromiseTest {
     private static final int[] RING = {0, 5, 2, 7, 4, 1, 6, 3};
 
     /** WW along the ring from one place to another, by one item. */
-    private static void writeAlong(HistoryJudge x, int item, int from, int to) {
+    private static void writeAlong(CountedJudge x, int item, int from, int to) {
         for (int i = from; i <= to; i++) {
             x.write(RING[i], item);
         }
     }
 
     private static void promise11Rings() {
-        HistoryJudge ww = new HistoryJudge();
+        CountedJudge ww = new CountedJudge();
         writeAlong(ww, 0, 0, 7);
         overwrite(ww, 1, 0, 3);
         commit(ww, RING);
@@ -520,7 +426,7 @@ public final class PromiseTest {
         dueRow("11: WW round, kind 1", ww, 1, RING);
         dueRow("11: WW round, kind 2", ww, 2);
         dueRow("11: WW round, kind 3", ww, 3);
-        HistoryJudge wr = new HistoryJudge();
+        CountedJudge wr = new CountedJudge();
         writeAlong(wr, 0, 0, 7);
         flow(wr, 1, 3, 0);
         commit(wr, RING);
@@ -528,14 +434,14 @@ public final class PromiseTest {
         dueRow("11: one WR, kind 1", wr, 1, RING);
         dueRow("11: one WR, kind 2", wr, 2);
         dueRow("11: one WR, kind 3", wr, 3);
-        HistoryJudge rw = new HistoryJudge();
+        CountedJudge rw = new CountedJudge();
         writeAlong(rw, 0, 0, 7);
         antiFlow(rw, 1, 3, 0);
         commit(rw, RING);
         dueRow("11: one RW, kind 1", rw, 1);
         dueRow("11: one RW, kind 2", rw, 2, RING);
         dueRow("11: one RW, kind 3", rw, 3, RING);
-        HistoryJudge two = new HistoryJudge();
+        CountedJudge two = new CountedJudge();
         writeAlong(two, 0, 0, 3);
         writeAlong(two, 2, 4, 7);
         antiFlow(two, 3, RING[3], RING[4]);
@@ -547,8 +453,8 @@ public final class PromiseTest {
     }
 
     private static void promise12() {
-        HistoryJudge x = new HistoryJudge();
-        due("12: new", HistoryJudge.NONE, x.step(0, 0));
+        CountedJudge x = new CountedJudge();
+        due("12: new", NONE, x.step(0, 0));
         for (int t = 0; t < 3; t++) {
             flow(x, t, t, (t + 1) % 3);
         }
@@ -559,18 +465,18 @@ public final class PromiseTest {
         commit(x, 7);
         dueRow("12: the shorter one", x, 1, 6, 7);
         dueRow("12: of no kind 0", x, 0);
-        for (int kind : new int[] {-1, 4, Integer.MIN_VALUE, Integer.MAX_VALUE}) {
-            due("12: kind " + kind, HistoryJudge.NONE, x.step(kind, 0));
+        for (int kind : NO_KINDS) {
+            due("12: kind " + kind, NONE, x.step(kind, 0));
         }
-        for (int i : new int[] {Integer.MIN_VALUE, -2, 3, 8, Integer.MAX_VALUE}) {
-            due("12: step " + i, HistoryJudge.NONE, x.step(1, i));
+        for (int i : new int[] {LEAST, -2, 3, 8, GREATEST}) {
+            due("12: step " + i, NONE, x.step(1, i));
         }
         promise12Least();
         promise12Marks();
     }
 
     private static void promise12Least() {
-        HistoryJudge x = new HistoryJudge();
+        CountedJudge x = new CountedJudge();
         int v = x.write(0, 0);
         x.read(4, 0, v);
         x.read(5, 0, v);
@@ -585,7 +491,7 @@ public final class PromiseTest {
         dueRow("12: not from its greater ones", x, 1, 0, 4, 1);
         commit(x, 5);
         dueRow("12: the least first one", x, 1, 0, 5);
-        HistoryJudge y = new HistoryJudge();
+        CountedJudge y = new CountedJudge();
         int w = y.write(0, 0);
         y.read(2, 0, w);
         y.read(3, 0, w);
@@ -597,7 +503,7 @@ public final class PromiseTest {
         dueRow("12: it begins with its least one", y, 1, 0, 3, 1);
         commit(y, 2, 5);
         dueRow("12: the least second one", y, 1, 0, 2, 5);
-        HistoryJudge z = new HistoryJudge();
+        CountedJudge z = new CountedJudge();
         flow(z, 0, 0, 2);
         int shared = z.write(2, 1);
         z.read(4, 1, shared);
@@ -612,7 +518,7 @@ public final class PromiseTest {
 
     /** The least row is due, whichever of its edges is the RW that its kind asks for. */
     private static void promise12Marks() {
-        HistoryJudge x = new HistoryJudge();
+        CountedJudge x = new CountedJudge();
         overwriteRead(x, 0, 0, 1);
         antiFlow(x, 1, 1, 2);
         flow(x, 2, 2, 0);
@@ -622,7 +528,7 @@ public final class PromiseTest {
         due("12: WW and RW", 5, x.edges(0, 1));
         due("12: RW alone", 4, x.edges(1, 2));
         dueRow("12: the first edge as WW", x, 2, 0, 1, 2);
-        HistoryJudge y = new HistoryJudge();
+        CountedJudge y = new CountedJudge();
         overwriteRead(y, 0, 0, 1);
         flow(y, 1, 1, 2);
         flow(y, 2, 2, 0);
@@ -630,7 +536,7 @@ public final class PromiseTest {
         flow(y, 4, 3, 0);
         commit(y, 0, 1, 2, 3);
         dueRow("12: the first edge as RW", y, 2, 0, 1, 2);
-        HistoryJudge z = new HistoryJudge();
+        CountedJudge z = new CountedJudge();
         antiFlow(z, 0, 0, 1);
         antiFlow(z, 1, 1, 2);
         flow(z, 2, 2, 0);
@@ -643,7 +549,7 @@ public final class PromiseTest {
     }
 
     private static void promise13() {
-        HistoryJudge x = new HistoryJudge();
+        CountedJudge x = new CountedJudge();
         dueSerial("13: nothing", x, 0);
         x.read(0, 0, x.write(1, 0));
         dueSerial("13: running ones do not count", x, 0);
@@ -651,22 +557,22 @@ public final class PromiseTest {
         dueNoSerial("13: of a running one", x);
         commit(x, 1);
         dueSerial("13: of a committed one", x, 1, 1, 0);
-        HistoryJudge aborted = new HistoryJudge();
+        CountedJudge aborted = new CountedJudge();
         flow(aborted, 0, 0, 1);
         aborted.end(0, false);
         commit(aborted, 1);
         dueNoSerial("13: of an aborted one", aborted);
-        HistoryJudge early = new HistoryJudge();
+        CountedJudge early = new CountedJudge();
         flow(early, 0, 0, 1);
         early.write(0, 0);
         commit(early, 0, 1);
         dueNoSerial("13: of a version not final", early);
-        HistoryJudge twice = new HistoryJudge();
+        CountedJudge twice = new CountedJudge();
         twice.read(0, 0, -1);
         flow(twice, 0, 1, 0);
         commit(twice, 0, 1);
         dueNoSerial("13: two versions of one item", twice);
-        HistoryJudge lost = new HistoryJudge();
+        CountedJudge lost = new CountedJudge();
         lost.read(0, 0, -1);
         lost.read(1, 0, -1);
         overwrite(lost, 0, 0, 1);
@@ -677,30 +583,30 @@ public final class PromiseTest {
     }
 
     private static void promise13Own() {
-        HistoryJudge x = new HistoryJudge();
+        CountedJudge x = new CountedJudge();
         x.read(0, 0, -1);
         x.read(0, 0, x.write(0, 0));
         x.read(0, 0, x.write(0, 0));
         commit(x, 0);
         dueSerial("13: its own latest ones", x, 1, 0);
-        HistoryJudge old = new HistoryJudge();
+        CountedJudge old = new CountedJudge();
         old.write(0, 0);
         old.write(0, 0);
         old.read(0, 0, 0);
         commit(old, 0);
         dueNoSerial("13: its own, not the latest", old);
-        HistoryJudge first = new HistoryJudge();
+        CountedJudge first = new CountedJudge();
         first.write(0, 0);
         first.read(0, 0, -1);
         commit(first, 0);
         dueNoSerial("13: -1 behind its own write", first);
-        HistoryJudge foreign = new HistoryJudge();
+        CountedJudge foreign = new CountedJudge();
         int version = foreign.write(0, 0);
         foreign.write(1, 0);
         foreign.read(1, 0, version);
         commit(foreign, 0, 1);
         dueNoSerial("13: another one's behind its own write", foreign);
-        HistoryJudge before = new HistoryJudge();
+        CountedJudge before = new CountedJudge();
         before.read(1, 0, before.write(0, 0));
         before.write(1, 0);
         commit(before, 0, 1);
@@ -709,20 +615,20 @@ public final class PromiseTest {
 
     /** By its edges it has a cycle, but nobody reads what would tell that they were not apart. */
     private static void promise13Blind() {
-        HistoryJudge x = new HistoryJudge();
+        CountedJudge x = new CountedJudge();
         x.read(0, 0, -1);
         overwrite(x, 0, 1, 0);
         x.write(2, 0);
         commit(x, 1, 0, 2);
         due("13: a cycle", 2, x.cycle(2));
         dueSerial("13: and yet a serial order", x, 1, 0, 1, 2);
-        HistoryJudge y = new HistoryJudge();
+        CountedJudge y = new CountedJudge();
         flow(y, 0, 5, 4);
         y.write(3, 0);
         y.write(4, 0);
         commit(y, 3, 4, 5);
         dueSerial("13: a reader that writes too", y, 2, 3, 5, 4);
-        HistoryJudge z = new HistoryJudge();
+        CountedJudge z = new CountedJudge();
         flow(z, 0, 0, 3);
         z.write(1, 0);
         z.write(2, 1);
@@ -731,17 +637,17 @@ public final class PromiseTest {
     }
 
     private static void promise14() {
-        HistoryJudge x = new HistoryJudge();
-        due("14: new", HistoryJudge.NONE, x.place(0));
+        CountedJudge x = new CountedJudge();
+        due("14: new", NONE, x.place(0));
         for (int t = 7; t >= 0; t--) {
             x.write(t, 0);
             x.end(t, true);
         }
         dueSerial("14: all eight, blind", x, 8, 0, 1, 2, 3, 4, 5, 6, 7);
-        for (int i : new int[] {Integer.MIN_VALUE, -2, 9, Integer.MAX_VALUE}) {
-            due("14: place " + i, HistoryJudge.NONE, x.place(i));
+        for (int i : new int[] {LEAST, -2, 9, GREATEST}) {
+            due("14: place " + i, NONE, x.place(i));
         }
-        HistoryJudge chain = new HistoryJudge();
+        CountedJudge chain = new CountedJudge();
         chain.write(7, 0);
         chain.end(7, true);
         for (int t = 6; t >= 0; t--) {
@@ -750,13 +656,13 @@ public final class PromiseTest {
             chain.end(t, true);
         }
         dueSerial("14: a chain", chain, 1, 7, 6, 5, 4, 3, 2, 1, 0);
-        HistoryJudge trap = new HistoryJudge();
+        CountedJudge trap = new CountedJudge();
         trap.read(3, 0, -1);
         flow(trap, 1, 0, 3);
         flow(trap, 0, 1, 2);
         commit(trap, 0, 1, 2, 3);
         dueSerial("14: the least one is not always next", trap, 1, 0, 3, 1, 2);
-        HistoryJudge gap = new HistoryJudge();
+        CountedJudge gap = new CountedJudge();
         gap.write(6, 1);
         gap.write(2, 1);
         gap.write(4, 1);
@@ -767,7 +673,7 @@ public final class PromiseTest {
     }
 
     private static void promise15() {
-        HistoryJudge x = new HistoryJudge();
+        CountedJudge x = new CountedJudge();
         due("15: new", 0, x.beginnings());
         x.read(0, 0, -1);
         x.read(1, 0, -1);
@@ -789,7 +695,7 @@ public final class PromiseTest {
         x.end(6, false);
         commit(x, 7);
         due("15: no order at all", 0, x.beginnings());
-        HistoryJudge dead = new HistoryJudge();
+        CountedJudge dead = new CountedJudge();
         flow(dead, 0, 0, 1);
         antiFlow(dead, 1, 2, 0);
         flow(dead, 2, 3, 2);
@@ -800,7 +706,7 @@ public final class PromiseTest {
     }
 
     private static void promise16() {
-        HistoryJudge x = new HistoryJudge();
+        CountedJudge x = new CountedJudge();
         due("16: new", 0, x.clear());
         x.read(0, 0, -1);
         due("16: reads do not count", 0, x.clear());
@@ -838,9 +744,6 @@ public final class PromiseTest {
         promise14();
         promise15();
         promise16();
-        System.out.println(wrong == 0 ? "all answers are as due" : wrong + " answers are not as due");
-        if (wrong != 0) {
-            System.exit(1);
-        }
+        close();
     }
 }

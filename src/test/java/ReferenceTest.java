@@ -351,7 +351,7 @@ public final class ReferenceTest {
 
     /** One history told to both judges, with the calls so far, to show when they differ. */
     private static final class Pair {
-        final HistoryJudge quick = new HistoryJudge();
+        final CountedJudge quick = new CountedJudge();
         final SlowJudge slow = new SlowJudge();
         final StringBuilder told = new StringBuilder();
         boolean differs = false;
