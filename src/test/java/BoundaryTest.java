@@ -982,6 +982,38 @@ public final class BoundaryTest extends Checks {
         dueSame("16: what each one wrote is forgotten", fresh, x);
     }
 
+    /** What was found for a question before must not come into the answers to a later one. */
+    private static void clearForgetsWhatWasAsked() {
+        CountedJudge x = new CountedJudge();
+        antiFlow(x, 0, 5, 2);
+        flow(x, 1, 0, 6);
+        x.write(3, 1);
+        commit(x, 5, 2, 0, 6, 3);
+        due("16: WW, asked", 1, x.edges(0, 3));
+        due("16: flaws, asked", 0, x.flaws());
+        dueSerial("16: asked", x, 3, 0, 5, 2, 6, 3);
+        x.clear();
+        for (int t = 0; t < 8; t++) {
+            x.write(t, t % 6);
+            x.end(t, true);
+        }
+        due("16: WW is forgotten", 0, x.edges(0, 3));
+        due("16: WR is forgotten", 0, x.edges(0, 6) & 2);
+        due("16: RW is forgotten", 0, x.edges(5, 2));
+        dueSerial("16: which ones must stand before others is forgotten", x, 8, ALL);
+        x.clear();
+        readOfAnAbortedOne(x);
+        dueNoSerial("16: asked, no order", x);
+        x.clear();
+        roundOfWW(x);
+        dueSerial("16: that there was no order is forgotten", x, 2, 6, 7);
+        dueRow("16: asked, a cycle", x, 0, 6, 7);
+        x.clear();
+        overwrite(x, 0, 7, 6);
+        commit(x, 7, 6);
+        dueRow("16: the cycle is forgotten", x, 0);
+    }
+
     // ---- Questions ----
 
     /** Asking changes nothing, whatever was asked before. */
@@ -1061,6 +1093,7 @@ public final class BoundaryTest extends Checks {
         clearOfAFullOne();
         clearForgetsAll();
         clearForgetsWhatEachOneWrote();
+        clearForgetsWhatWasAsked();
         questionsChangeNothing();
         close();
     }

@@ -11,6 +11,8 @@ import java.util.Random;
 public final class ReferenceTest {
     private static final int HISTORIES = 6000;
     private static final int MOST_FAULTS = 20;
+    /** So few that both comparisons, of some 170 calls each, stay within an object's 512 calls. */
+    private static final int MOST_CALLS_MORE = 36;
 
     private static int wrong = 0;
 
@@ -468,8 +470,7 @@ public final class ReferenceTest {
     }
 
     /** Any calls with any arguments, wrong ones now and then. */
-    private static void tellAnything(Pair pair, Random random) {
-        int calls = random.nextInt(130);
+    private static void tellAnything(Pair pair, Random random, int calls) {
         int ends = 3 + random.nextInt(30);
         for (int i = 0; i < calls; i++) {
             int t = random.nextInt(40) == 0 ? oddNumber(random, 8) : random.nextInt(8);
@@ -591,12 +592,15 @@ public final class ReferenceTest {
         for (int n = 0; n < HISTORIES && wrong < MOST_FAULTS; n++) {
             Pair pair = new Pair();
             if (n % 3 == 0) {
-                tellAnything(pair, random);
+                tellAnything(pair, random, random.nextInt(130));
             } else if (n % 3 == 1) {
                 tellFew(pair, random);
             } else {
                 tellSerial(pair, random);
             }
+            pair.compare();
+            // What was asked and answered must not linger: the history goes on, and is asked again.
+            tellAnything(pair, random, random.nextInt(MOST_CALLS_MORE));
             pair.compare();
         }
         checkCounts();
